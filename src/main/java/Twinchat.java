@@ -1342,7 +1342,7 @@ public final class Twinchat {
             }
         }
 
-        private void addPart(char part, long stanza) {
+        private void addPart(int part, long stanza) {
             int value = Stanza.valueOf(stanza);
             switch (part) {
                 case 'N': addNumber(Stanza.numberOf(stanza)); break;

@@ -9,6 +9,7 @@ public final class HouseTest {
         knock();
         isSound();
         digest();
+        digestOfAll();
         System.exit(Check.closed("HouseTest"));
     }
 
@@ -97,6 +98,76 @@ public final class HouseTest {
         x.letGo(8);
         x.pull(2, 99);
         Check.that("49: let go and received", true, x.isSound());
+    }
+
+    /** A house in which something is everywhere: the checksum of what the face tells of it. */
+    private static void digestOfAll() {
+        Twinchat x = new Twinchat();
+        for (int r = 0; r < 11; r++) x.login(r);
+        for (int r = 0; r < 8; r++) x.available(r, 3 - r);
+        x.subscribe(0, 3);
+        x.subscribe(8, 1);
+        x.carryAll();
+        x.approve(6, 0);
+        x.carryAll();
+        x.pull(0, 99);
+        x.ack(0);
+        x.subscribe(2, 3);
+        x.block(4, 5, true);
+        for (int k = 0; k < 3; k++) x.send(8, 5, 1);
+        x.send(2, 0, 0);
+        x.send(9, 0, 0);
+        x.carry(1, 1);
+        x.pull(0, 1);
+        x.join(0, 0);
+        x.join(2, 0);
+        x.say(2, 0);
+        x.say(0, 0);
+        x.member(0, 0, 5, 3);
+        x.moderate(6, 1, true);
+        x.leave(6, 0);
+        x.breaks(6);
+        x.raise();
+        x.knock();
+        Check.that("50: of all", ofFace(x), x.digest());
+        x.fail();
+        Check.that("50: down", ofFace(x), x.digest());
+        x.raise();
+        Check.that("50: another key", ofFace(x), x.digest());
+    }
+
+    private static long ofFace(Twinchat x) {
+        long d = 7676;
+        for (int what = 0; what <= 9; what++) d = d * 31 + x.house(what);
+        for (int r = 0; r < 12; r++) {
+            for (int what = 0; what <= 6; what++) d = d * 31 + x.ofStream(r, what);
+            for (int k = 0; k < x.ofStream(r, 1) - x.ofStream(r, 2); k++) d = ofText(d, x.due(r, k));
+            for (int s = 0; s < 12; s++) d = ofText(d, x.sees(r, s));
+        }
+        for (int u = 0; u < 6; u++) {
+            for (int v = 0; v < 6; v++) {
+                d = (d * 31 + x.to(u, v)) * 31 + x.from(u, v);
+                d = (d * 31 + x.asked(u, v, true)) * 31 + x.asked(u, v, false);
+                d = d * 31 + (x.blocks(u, v) ? 1 : 0);
+            }
+        }
+        for (int u = 0; u < 6; u++) for (int k = 0; k <= 4; k++) d = d * 31 + x.stored(u, k);
+        for (int server = 0; server < 2; server++) {
+            for (int k = 0; k < x.house(3 + server); k++) d = ofText(d, x.onLink(server, k));
+            d = d * 31 + x.key(server);
+        }
+        for (int g = 0; g < 2; g++) {
+            for (int what = 0; what <= 2; what++) d = d * 31 + x.ofRoom(g, what);
+            for (int k = 0; k <= 4; k++) d = d * 31 + x.occupant(g, k);
+            for (int u = 0; u < 6; u++) d = d * 31 + x.affiliation(g, u);
+            for (int k = 1; k <= x.ofRoom(g, 1); k++) d = d * 31 + x.said(g, k);
+        }
+        return d * 31 + (x.isSound() ? 1 : 0);
+    }
+
+    private static long ofText(long d, String text) {
+        for (int k = 0; k < text.length(); k++) d = d * 31 + text.charAt(k);
+        return d;
     }
 
     private static void digest() {

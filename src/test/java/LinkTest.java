@@ -9,6 +9,7 @@ public final class LinkTest {
         prove();
         carry();
         carryIsOneByOne();
+        carryManyOverTime();
         carryAll();
         System.exit(Check.closed("LinkTest"));
     }
@@ -106,6 +107,27 @@ public final class LinkTest {
         Check.that("28: the room told first", "in g1 0.0 1", x.due(6, 1));
         Check.that("28: then the message", "m 1 0.0", x.due(6, 2));
         Check.that("28: answers go the other way", "in g1 3.0 2 to 0.0", x.onLink(1, 0));
+    }
+
+    /** Much is on the LINK while some of it is carried: all comes, in its sequence. */
+    private static void carryManyOverTime() {
+        Twinchat x = new Twinchat();
+        x.login(0);
+        x.login(6);
+        int sent = 0;
+        int carried = 0;
+        for (int round = 0; round < 100; round++) {
+            for (int k = 0; k < 2; k++) {
+                sent++;
+                x.send(0, 3, 0);
+            }
+            if (round % 3 != 0) carried += x.carry(0, 2);
+            Check.that("28: the next on the link", "m " + (carried + 1) + " 0.0 to 3.0", x.onLink(0, 0));
+            Check.that("28: how many", sent - carried, x.house(3));
+        }
+        carried += x.carryAll();
+        Check.that("28: all came", sent, carried);
+        for (int k = 0; k < sent; k++) Check.that("28: in sequence", "m " + (k + 1) + " 0.0", x.due(6, k));
     }
 
     private static void carryAll() {

@@ -13,14 +13,8 @@ public final class MessagesTest {
         System.exit(Check.closed("MessagesTest"));
     }
 
-    private static Twinchat logged(int... resources) {
-        Twinchat x = new Twinchat();
-        for (int r : resources) x.login(r);
-        return x;
-    }
-
     private static void toUser() {
-        Twinchat x = logged(0, 2, 3);
+        Twinchat x = Chats.logged(0, 2, 3);
         Check.that("16: the first", 1, x.send(0, 1, -1));
         Check.that("16: none is available", 1, x.stored(1, 0));
         x.available(2, -1);
@@ -44,7 +38,7 @@ public final class MessagesTest {
     }
 
     private static void toResource() {
-        Twinchat x = logged(0, 2);
+        Twinchat x = Chats.logged(0, 2);
         x.send(0, 1, 0);
         Check.that("16: not available, but on", "m 1 0.0", x.due(2, 0));
         x.send(0, 1, 1);
@@ -59,7 +53,7 @@ public final class MessagesTest {
     }
 
     private static void blocked() {
-        Twinchat x = logged(0, 2);
+        Twinchat x = Chats.logged(0, 2);
         x.block(2, 0, true);
         x.send(0, 1, 0);
         x.send(0, 1, -1);
@@ -76,7 +70,7 @@ public final class MessagesTest {
     }
 
     private static void full() {
-        Twinchat x = logged(0, 2);
+        Twinchat x = Chats.logged(0, 2);
         for (int k = 1; k <= 7; k++) x.send(0, 2, -1);
         for (int k = 0; k < 5; k++) Check.that("16: stored", k + 1, x.stored(2, k));
         Check.that("16: no more", -1, x.stored(2, 5));
@@ -90,7 +84,7 @@ public final class MessagesTest {
     }
 
     private static void overLink() {
-        Twinchat x = logged(0, 10);
+        Twinchat x = Chats.logged(0, 10);
         x.send(0, 5, -1);
         x.send(0, 5, 1);
         x.send(10, 0, 0);
@@ -105,7 +99,7 @@ public final class MessagesTest {
     }
 
     private static void bounceToOneThatIsOff() {
-        Twinchat x = logged(0, 6);
+        Twinchat x = Chats.logged(0, 6);
         x.block(6, 0, true);
         x.send(0, 3, 0);
         x.logout(0);

@@ -17,22 +17,15 @@ public final class RoomsTest {
         System.exit(Check.closed("RoomsTest"));
     }
 
-    private static Twinchat logged(int... resources) {
-        Twinchat x = new Twinchat();
-        for (int r : resources) x.login(r);
-        return x;
-    }
-
     /** All that is behind PULLED, and it is pulled. */
     private static String pulled(Twinchat x, int resource) {
-        StringBuilder all = new StringBuilder();
-        for (int k = 0; !x.due(resource, k).equals("-"); k++) all.append(x.due(resource, k)).append("; ");
+        String all = Chats.dues(x, resource);
         x.pull(resource, 99);
-        return all.toString();
+        return all;
     }
 
     private static void join() {
-        Twinchat x = logged(0, 2, 4);
+        Twinchat x = Chats.logged(0, 2, 4);
         Check.that("17: nothing on the link", 0, x.join(0, 0));
         Check.that("17: an owner", 2, x.roleOf(0, 0));
         Check.that("17: told of itself", "in g0 0.0 2; ", pulled(x, 0));
@@ -58,7 +51,7 @@ public final class RoomsTest {
     }
 
     private static void joinFull() {
-        Twinchat x = logged(0, 1, 2, 3, 4, 5);
+        Twinchat x = Chats.logged(0, 1, 2, 3, 4, 5);
         for (int r = 0; r < 5; r++) x.join(r, 0);
         for (int r = 0; r < 5; r++) Check.that("17: as they came", r, x.occupant(0, r));
         pulled(x, 0);
@@ -77,7 +70,7 @@ public final class RoomsTest {
     }
 
     private static void joinTellsHistory() {
-        Twinchat x = logged(0, 2, 4);
+        Twinchat x = Chats.logged(0, 2, 4);
         x.join(0, 0);
         x.join(2, 0);
         x.say(0, 0);
@@ -94,7 +87,7 @@ public final class RoomsTest {
     }
 
     private static void leave() {
-        Twinchat x = logged(0, 2, 4);
+        Twinchat x = Chats.logged(0, 2, 4);
         x.join(0, 0);
         x.join(2, 0);
         x.join(4, 0);
@@ -116,7 +109,7 @@ public final class RoomsTest {
     }
 
     private static void say() {
-        Twinchat x = logged(0, 2);
+        Twinchat x = Chats.logged(0, 2);
         Check.that("19: say", 0, x.say(0, 0));
         Check.that("19: not in", "not g0 in; ", pulled(x, 0));
         x.join(0, 0);
@@ -139,7 +132,7 @@ public final class RoomsTest {
     }
 
     private static void kick() {
-        Twinchat x = logged(0, 1, 2, 4);
+        Twinchat x = Chats.logged(0, 1, 2, 4);
         x.join(0, 0);
         x.join(1, 0);
         x.join(2, 0);
@@ -166,7 +159,7 @@ public final class RoomsTest {
     }
 
     private static void role() {
-        Twinchat x = logged(0, 1, 2, 4);
+        Twinchat x = Chats.logged(0, 1, 2, 4);
         x.join(0, 0);
         x.join(1, 0);
         x.join(2, 0);
@@ -191,7 +184,7 @@ public final class RoomsTest {
     }
 
     private static void member() {
-        Twinchat x = logged(0, 2, 3, 4);
+        Twinchat x = Chats.logged(0, 2, 3, 4);
         x.join(3, 0);
         x.join(2, 0);
         x.join(4, 0);
@@ -218,7 +211,7 @@ public final class RoomsTest {
     }
 
     private static void moderate() {
-        Twinchat x = logged(0, 2, 6);
+        Twinchat x = Chats.logged(0, 2, 6);
         x.join(2, 0);
         pulled(x, 2);
         x.moderate(2, 0, true);
@@ -241,7 +234,7 @@ public final class RoomsTest {
     }
 
     private static void overLink() {
-        Twinchat x = logged(0, 6);
+        Twinchat x = Chats.logged(0, 6);
         x.join(6, 1);
         x.join(0, 1);
         x.carry(0, 1);

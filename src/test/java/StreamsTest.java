@@ -61,6 +61,8 @@ public final class StreamsTest {
         Check.that("3: received", 2, x.fate(1, 1));
         Check.that("3: not yet", -1, x.fate(2, 1));
         Check.that("3: inbox", "m 1 0.0", x.inbox(2, 0));
+        Check.that("3: numbers of two signs", "m 10 0.0", x.due(2, 8));
+        Check.that("3: numbers of three signs", "m 100 0.0", x.due(2, 98));
         Check.that("3: at most 99", 99, x.pull(2, 99));
         Check.that("3: the last", 1, x.pull(2, 99));
         Check.that("3: pulled", 101, x.ofStream(2, 2));
@@ -95,6 +97,7 @@ public final class StreamsTest {
         y.login(0);
         Check.that("3: what was seen is seen till begin", "2", y.sees(0, 6));
         y.unavailable(6);
+        y.carryAll();
         y.available(0, 0);
         y.carryAll();
         y.pull(0, 99);
