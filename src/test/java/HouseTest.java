@@ -129,45 +129,11 @@ public final class HouseTest {
         x.breaks(6);
         x.raise();
         x.knock();
-        Check.that("50: of all", ofFace(x), x.digest());
+        Check.that("50: of all", Whole.digest(x), x.digest());
         x.fail();
-        Check.that("50: down", ofFace(x), x.digest());
+        Check.that("50: down", Whole.digest(x), x.digest());
         x.raise();
-        Check.that("50: another key", ofFace(x), x.digest());
-    }
-
-    private static long ofFace(Twinchat x) {
-        long d = 7676;
-        for (int what = 0; what <= 9; what++) d = d * 31 + x.house(what);
-        for (int r = 0; r < 12; r++) {
-            for (int what = 0; what <= 6; what++) d = d * 31 + x.ofStream(r, what);
-            for (int k = 0; k < x.ofStream(r, 1) - x.ofStream(r, 2); k++) d = ofText(d, x.due(r, k));
-            for (int s = 0; s < 12; s++) d = ofText(d, x.sees(r, s));
-        }
-        for (int u = 0; u < 6; u++) {
-            for (int v = 0; v < 6; v++) {
-                d = (d * 31 + x.to(u, v)) * 31 + x.from(u, v);
-                d = (d * 31 + x.asked(u, v, true)) * 31 + x.asked(u, v, false);
-                d = d * 31 + (x.blocks(u, v) ? 1 : 0);
-            }
-        }
-        for (int u = 0; u < 6; u++) for (int k = 0; k <= 4; k++) d = d * 31 + x.stored(u, k);
-        for (int server = 0; server < 2; server++) {
-            for (int k = 0; k < x.house(3 + server); k++) d = ofText(d, x.onLink(server, k));
-            d = d * 31 + x.key(server);
-        }
-        for (int g = 0; g < 2; g++) {
-            for (int what = 0; what <= 2; what++) d = d * 31 + x.ofRoom(g, what);
-            for (int k = 0; k <= 4; k++) d = d * 31 + x.occupant(g, k);
-            for (int u = 0; u < 6; u++) d = d * 31 + x.affiliation(g, u);
-            for (int k = 1; k <= x.ofRoom(g, 1); k++) d = d * 31 + x.said(g, k);
-        }
-        return d * 31 + (x.isSound() ? 1 : 0);
-    }
-
-    private static long ofText(long d, String text) {
-        for (int k = 0; k < text.length(); k++) d = d * 31 + text.charAt(k);
-        return d;
+        Check.that("50: another key", Whole.digest(x), x.digest());
     }
 
     private static void digest() {

@@ -60,6 +60,7 @@ public final class UnsoundTest {
 
     private static void unsound(String name, Twinchat x) {
         Check.that("49: " + name, false, x.isSound());
+        Check.that("50: 0 at the end: " + name, Whole.digest(x), x.digest());
     }
 
     private static void bonds() throws ReflectiveOperationException {
@@ -79,6 +80,13 @@ public final class UnsoundTest {
         set(of(of(x, "following"), "states"), 5, 1);
         set(of(of(x, "following"), "numbers"), 5, 1);
         unsound("TO of the first, without FROM", x);
+        x = house();
+        set(of(of(x, "following"), "states"), 5 * 6, 2);
+        set(of(of(x, "following"), "numbers"), 5 * 6, 1);
+        unsound("TO the first, without FROM", x);
+        x = house();
+        set(of(of(x, "followers"), "states"), 5, 1);
+        unsound("FROM the last, without TO", x);
     }
 
     private static void views() throws ReflectiveOperationException {
@@ -91,6 +99,19 @@ public final class UnsoundTest {
         x = house();
         set(of(streamOf(x, 0), "seen"), 6, 15);
         unsound("one is not seen", x);
+        x = house();
+        set(of(streamOf(x, 0), "seen"), 0, 1);
+        unsound("one sees itself", x);
+        x = house();
+        x.pull(6, 99);
+        set(of(streamOf(x, 6), "seen"), 0, 1);
+        unsound("the first is seen", x);
+        x = house();
+        x.login(11);
+        x.available(11, 0);
+        x.pull(11, 1);
+        set(of(streamOf(x, 11), "seen"), 0, 1);
+        unsound("the last sees", x);
         x = house();
         set(of(streamOf(x, 2), "seen"), 6, 2);
         Check.that("49: what one sees that is not available does not matter", true, x.isSound());
@@ -122,6 +143,28 @@ public final class UnsoundTest {
         x.send(6, 0, 0);
         Array.setBoolean(of(of(x, "post"), "areBounced"), 4, true);
         unsound("one is bounced and on the link", x);
+        x = house();
+        x.send(2, 0, 0);
+        Array.setBoolean(of(of(x, "post"), "areBounced"), 4, true);
+        unsound("one is bounced and in the first stream", x);
+        x = house();
+        x.available(0, -1);
+        x.send(2, 0, -1);
+        Array.setBoolean(of(of(x, "post"), "areBounced"), 4, true);
+        unsound("one is bounced and stored of the first user", x);
+        x = house();
+        x.send(6, 5, -1);
+        Array.setBoolean(of(of(x, "post"), "areBounced"), 4, true);
+        unsound("one is bounced and stored of the last user", x);
+        x = house();
+        x.login(11);
+        x.send(6, 5, 1);
+        Array.setBoolean(of(of(x, "post"), "areBounced"), 4, true);
+        unsound("one is bounced and in the last stream", x);
+        x = house();
+        for (int k = 0; k < 4; k++) x.send(4, 1, -1);
+        Array.setBoolean(of(of(x, "post"), "areBounced"), 7, true);
+        unsound("one is bounced and the fifth that is stored", x);
     }
 
     private static void inboxes() throws ReflectiveOperationException {
