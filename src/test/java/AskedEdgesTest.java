@@ -29,6 +29,9 @@ public final class AskedEdgesTest {
         storedFive();
         fateOfNoMessage();
         fateFirstAndLast();
+        fateOfStored();
+        fateOfBounced();
+        fateOfAnew();
         onLinkEmpty();
         onLinkOne();
         roomEmpty();
@@ -313,6 +316,49 @@ public final class AskedEdgesTest {
         for (int what = 0; what <= 4; what++) {
             for (int k = 0; k < 2; k++) Check.that("39: received, " + what, after[k][what], x.fate(k + 1, what));
         }
+    }
+
+    /** "3 1 if it is STORED": of the first USER and the last, the first and the fifth; not when it is PUT. */
+    private static void fateOfStored() {
+        for (int user : new int[] {0, 5}) {
+            Twinchat x = Chats.logged(4, 2 * user);
+            Chats.send(x, 4, user, -1, 5);
+            Check.that("39: on the way, or there", user == 5 ? 0 : 1, x.fate(1, 3));
+            x.carryAll();
+            for (int number = 1; number <= 5; number++) Check.that("39: stored", 1, x.fate(number, 3));
+            x.available(2 * user, 0);
+            for (int number = 1; number <= 5; number++) Check.that("39: put", 0, x.fate(number, 3));
+        }
+    }
+
+    /** "2 1 if it was BOUNCED": for each reason there is; it stays so. */
+    private static void fateOfBounced() {
+        Twinchat x = Chats.logged(0, 2, 4);
+        Chats.send(x, 0, 1, -1, 6);
+        x.block(4, 0, true);
+        x.send(0, 2, 0);
+        x.send(0, 1, 0);
+        x.breaks(2);
+        x.letGo(2);
+        int[] due = {0, 0, 0, 0, 0, 1, 1, 1};
+        for (int k = 0; k < 8; k++) Check.that("39: full, unavailable, gone", due[k], x.fate(k + 1, 2));
+        Chats.pullAll(x);
+        for (int k = 0; k < 8; k++) Check.that("39: it stays so", due[k], x.fate(k + 1, 2));
+        Check.that("47: as many", 3, x.house(2));
+    }
+
+    /** "4 how often it was DELIVERED ANEW": 0, 1, 2; to be PUT behind it was STORED is not that. */
+    private static void fateOfAnew() {
+        Twinchat x = Chats.logged(0, 2);
+        x.send(0, 1, 0);
+        Check.that("39: never", 0, x.fate(1, 4));
+        x.logout(2);
+        Check.that("39: once", 1, x.fate(1, 4));
+        x.login(2);
+        x.available(2, 0);
+        Check.that("39: that is not anew", 1, x.fate(1, 4));
+        x.logout(2);
+        Check.that("39: twice", 2, x.fate(1, 4));
     }
 
     private static void onLinkEmpty() {

@@ -18,6 +18,7 @@ public final class LinkEdgesTest {
         proveAgain();
         proveAnOlderKey();
         provedTillItFails();
+        proveOfNoServer();
         carryNothing();
         carryOne();
         carryNinetyNine();
@@ -220,6 +221,19 @@ public final class LinkEdgesTest {
         Check.that("47: not proved", 0, x.house(6));
         x.raise();
         Check.that("47: nor as it is up", 0, x.house(6));
+    }
+
+    /** "if there is no such SERVER": nothing changes, with the KEY of either one. */
+    private static void proveOfNoServer() {
+        for (int server = 0; server < 2; server++) {
+            for (int none : new int[] {-1, 2, Integer.MIN_VALUE, Integer.MAX_VALUE}) {
+                Twinchat x = new Twinchat();
+                Chats.reraise(x);
+                int key = x.key(server);
+                Check.badIndex("27: no such server", () -> x.prove(none, key));
+                Check.that("27: neither has proved by that", false, x.prove(1 - server, x.key(1 - server)));
+            }
+        }
     }
 
     /** "Returns how many were": nothing is on it. */

@@ -492,11 +492,17 @@ public final class PresenceEdgesTest {
         Check.that("13: not to one that is not available", "", Chats.dues(x, 0));
     }
 
-    private static void yesWithAnOlderNumber() {
+    /** 0.0 is AVAILABLE, USER 3 is FROM USER 0 ASKED, nothing is on the LINK. */
+    private static Twinchat asked() {
         Twinchat x = Chats.logged(0, 6);
         x.available(0, 0);
         x.subscribe(0, 3);
         x.carryAll();
+        return x;
+    }
+
+    private static void yesWithAnOlderNumber() {
+        Twinchat x = asked();
         x.approve(6, 0);
         x.unsubscribe(0, 3);
         x.subscribe(0, 3);
@@ -507,10 +513,7 @@ public final class PresenceEdgesTest {
     }
 
     private static void yesToNothing() {
-        Twinchat x = Chats.logged(0, 6);
-        x.available(0, 0);
-        x.subscribe(0, 3);
-        x.carryAll();
+        Twinchat x = asked();
         x.approve(6, 0);
         x.unsubscribe(0, 3);
         x.carry(1, 1);
@@ -539,10 +542,7 @@ public final class PresenceEdgesTest {
     }
 
     private static void noWithAnOlderNumber() {
-        Twinchat x = Chats.logged(0, 6);
-        x.available(0, 0);
-        x.subscribe(0, 3);
-        x.carryAll();
+        Twinchat x = asked();
         x.deny(6, 0);
         x.unsubscribe(0, 3);
         x.subscribe(0, 3);
@@ -553,10 +553,7 @@ public final class PresenceEdgesTest {
     }
 
     private static void noToNothing() {
-        Twinchat x = Chats.logged(0, 6);
-        x.available(0, 0);
-        x.subscribe(0, 3);
-        x.carryAll();
+        Twinchat x = asked();
         x.deny(6, 0);
         x.unsubscribe(0, 3);
         x.carryAll();
@@ -733,14 +730,20 @@ public final class PresenceEdgesTest {
         Check.that("15: one, then the other", "p 0.0 -5 to 3; probe 0.0 to 3; p 0.1 9 to 3; probe 0.1 to 3; ", Chats.linked(x, 0));
     }
 
-    /** "if u is TO the USER of s SUBSCRIBED": ASKED is not enough. */
-    private static void presenceToUserAsked() {
+    /** 0.0 is SUBSCRIBED TO USER 3 and has pulled all; "p 3.0 2" is on the LINK to USER 0. */
+    private static Twinchat presenceOnTheLink() {
         Twinchat x = Chats.logged(0, 6);
         x.available(0, 0);
         x.available(6, 1);
         Chats.befriend(x, 0, 6);
         Chats.pulled(x, 0);
         x.available(6, 2);
+        return x;
+    }
+
+    /** "if u is TO the USER of s SUBSCRIBED": ASKED is not enough. */
+    private static void presenceToUserAsked() {
+        Twinchat x = presenceOnTheLink();
         x.unsubscribe(0, 3);
         x.subscribe(0, 3);
         x.carry(1, 1);
@@ -749,24 +752,14 @@ public final class PresenceEdgesTest {
     }
 
     private static void presenceToUserNothing() {
-        Twinchat x = Chats.logged(0, 6);
-        x.available(0, 0);
-        x.available(6, 1);
-        Chats.befriend(x, 0, 6);
-        Chats.pulled(x, 0);
-        x.available(6, 2);
+        Twinchat x = presenceOnTheLink();
         x.unsubscribe(0, 3);
         x.carry(1, 1);
         Check.that("9: not put", "forget 3; ", Chats.dues(x, 0));
     }
 
     private static void presenceToUserBlocking() {
-        Twinchat x = Chats.logged(0, 6);
-        x.available(0, 0);
-        x.available(6, 1);
-        Chats.befriend(x, 0, 6);
-        Chats.pulled(x, 0);
-        x.available(6, 2);
+        Twinchat x = presenceOnTheLink();
         x.block(0, 3, true);
         x.carry(1, 1);
         Check.that("9: not put", "forget 3; ", Chats.dues(x, 0));
@@ -808,14 +801,20 @@ public final class PresenceEdgesTest {
         Check.that("9: not to its other one", "begin; p 3.0 1; ", Chats.dues(x, 0));
     }
 
-    /** "likewise": if u BLOCKS the USER of s by then, it is not PUT. */
-    private static void presenceToResourceBlocking() {
+    /** 0.0 is SUBSCRIBED TO USER 3 and became AVAILABLE; "p 3.0 1", its answer, is on the LINK to 0.0. */
+    private static Twinchat answerOnTheLink() {
         Twinchat x = Chats.logged(0, 6);
         Chats.befriend(x, 0, 6);
         x.available(6, 1);
         x.carryAll();
         x.available(0, 0);
         x.carry(0, 9);
+        return x;
+    }
+
+    /** "likewise": if u BLOCKS the USER of s by then, it is not PUT. */
+    private static void presenceToResourceBlocking() {
+        Twinchat x = answerOnTheLink();
         Check.that("9: it is on the link", "p 3.0 1 to 0.0; ", Chats.linked(x, 1));
         x.block(0, 3, true);
         x.carryAll();
@@ -825,12 +824,7 @@ public final class PresenceEdgesTest {
     /** "likewise": if u is no longer TO the USER of s SUBSCRIBED, it is not PUT. */
     private static void presenceToResourceNoLonger() {
         for (boolean isAskedAnew : new boolean[] {false, true}) {
-            Twinchat x = Chats.logged(0, 6);
-            Chats.befriend(x, 0, 6);
-            x.available(6, 1);
-            x.carryAll();
-            x.available(0, 0);
-            x.carry(0, 9);
+            Twinchat x = answerOnTheLink();
             x.unsubscribe(0, 3);
             if (isAskedAnew) x.subscribe(0, 3);
             x.carry(1, 9);

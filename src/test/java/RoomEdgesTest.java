@@ -31,6 +31,7 @@ public final class RoomEdgesTest {
         roleByEachRole();
         roleOfOneThatIsNotIn();
         memberOfEach();
+        memberOfOneThatIsIn();
         memberOfTheOwner();
         memberByNoOwner();
         memberOfTheFirstUser();
@@ -439,6 +440,17 @@ public final class RoomEdgesTest {
                 Check.that("22: nobody is told", "", Chats.dues(x, 0));
             }
         }
+    }
+
+    /** "if OUTCAST": MEMBER or NONE nobody goes, and the ROLE stays. */
+    private static void memberOfOneThatIsIn() {
+        Twinchat x = room();
+        for (int rank = 0; rank <= 1; rank++) {
+            x.member(0, 0, 1, rank);
+            x.member(0, 0, 2, rank);
+            Check.that("22: all stay", "0/2 2/1 4/0 ", inside(x, 0));
+        }
+        Check.that("22: nobody is told", "", Chats.dues(x, 0) + Chats.dues(x, 2) + Chats.dues(x, 4));
     }
 
     /** "and v another one": otherwise "not g right". */
