@@ -126,8 +126,9 @@ public final class Twinchat {
         needState(resource, BROKEN);
         goAway(resource);
         Stream stream = streamOf(resource);
+        int end = stream.flow.size();
         int count = 0;
-        for (int k = stream.acked; k < stream.flow.size(); k++) {
+        for (int k = stream.acked; k < end; k++) {
             long stanza = stream.flow.at(k);
             if (Stanza.kindOf(stanza) == Stanza.MESSAGE) {
                 post.markLetGo(Stanza.numberOf(stanza));
@@ -145,8 +146,9 @@ public final class Twinchat {
         needState(resource, ON);
         goAway(resource);
         Stream stream = streamOf(resource);
+        int end = stream.flow.size();
         int count = 0;
-        for (int k = stream.pulled; k < stream.flow.size(); k++) {
+        for (int k = stream.pulled; k < end; k++) {
             long stanza = stream.flow.at(k);
             if (Stanza.kindOf(stanza) == Stanza.MESSAGE) {
                 post.countAnew(Stanza.numberOf(stanza));

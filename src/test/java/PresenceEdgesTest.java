@@ -20,6 +20,7 @@ public final class PresenceEdgesTest {
         storedFive();
         storedOfBlocked();
         storedOfBlockedAlone();
+        storedBehindWhatIsTold();
         storedThoughItWasAvailable();
         storedThoughTheOtherIsGreater();
         storedBehindBegin();
@@ -255,6 +256,18 @@ public final class PresenceEdgesTest {
         Check.that("9: then nothing is stored", -1, x.stored(1, 0));
         Check.that("9: all are bounced", 5, x.house(2));
         Check.that("9: sound", true, x.isSound());
+    }
+
+    /** "Then .. Then ..": what is BOUNCED of the STORED goes behind "p r P" and "probe r". */
+    private static void storedBehindWhatIsTold() {
+        Twinchat x = Chats.logged(0, 6, 8);
+        Chats.befriend(x, 8, 0);
+        Chats.befriend(x, 0, 8);
+        x.send(6, 0, -1);
+        x.carryAll();
+        x.block(0, 3, true);
+        Check.that("9: the only one STORED is bounced", 0, x.available(0, 1));
+        Check.that("9: the bounce is last", "p 0.0 1 to 4; probe 0.0 to 4; b 1 unavailable to 3.0; ", Chats.linked(x, 0));
     }
 
     private static void storedThoughItWasAvailable() {

@@ -15,6 +15,8 @@ public final class RoomEdgesTest {
         ownerOfTheOtherRoom();
         historyOfNoneToFour();
         historyStays();
+        emptiedStaysAsItWas();
+        aheadAsTheyAreNow();
         leaveOfOneThatIsNotIn();
         leaveOfTheOnlyOne();
         leaveOfFirstMiddleLast();
@@ -224,6 +226,40 @@ public final class RoomEdgesTest {
         Check.that("17: told", "in g0 1.0 1; said g0 1 0.0; ", Chats.dues(x, 2));
         x.say(2, 0);
         Check.that("19: the next number", 2, x.said(0, 2));
+    }
+
+    /** What is of the ROOM and not of those who are in stays, though all left. */
+    private static void emptiedStaysAsItWas() {
+        Twinchat x = Chats.logged(0, 2, 4);
+        x.member(0, 0, 1, 1);
+        x.member(0, 0, 2, 3);
+        x.moderate(0, 0, true);
+        x.join(0, 0);
+        x.leave(0, 0);
+        Check.that("18: nobody is in", "", inside(x, 0));
+        Check.that("18: MODERATED still", 1, x.ofRoom(0, 2));
+        Check.that("18: MEMBER still", 1, x.affiliation(0, 1));
+        Check.that("18: OUTCAST still", 3, x.affiliation(0, 2));
+        Check.that("18: OWNER still", 2, x.affiliation(0, 0));
+        x.join(2, 0);
+        x.join(4, 0);
+        Check.that("17: as they are", "2/1 ", inside(x, 0));
+    }
+
+    /** "To r for each occupant ahead "in g s ROLE"": the ROLE that it has now, not the one it came with. */
+    private static void aheadAsTheyAreNow() {
+        Twinchat x = Chats.logged(0, 2, 3, 4, 5);
+        x.join(0, 0);
+        x.join(2, 0);
+        x.moderate(0, 0, true);
+        x.join(4, 0);
+        x.role(0, 0, 2, 0);
+        x.role(0, 0, 4, 1);
+        x.join(5, 0);
+        Check.that("17: told", "in g0 0.0 2; in g0 1.0 0; in g0 2.0 1; in g0 2.1 0; ", Chats.dues(x, 5));
+        x.moderate(0, 0, false);
+        x.join(3, 0);
+        Check.that("17: nor by MODERATED", "in g0 0.0 2; in g0 1.0 0; in g0 2.0 1; in g0 2.1 0; in g0 1.1 1; ", Chats.dues(x, 3));
     }
 
     /** "if it is in": otherwise nothing, not even "not". */
